@@ -460,17 +460,27 @@ public final class Callerhall {
     if (most < 0 || most > 2) {
       throw new IllegalArgumentException();
     }
-    boolean isFound = isHome();
-    int length = 0;
-    while (!isFound && length < most) {
-      length++;
-      isFound = length == 1 ? findOneAct() : findTwoActs();
+    if (isHome()) {
+      wayLength = 0;
+      return 0;
     }
-    if (!isFound) {
-      throw new NoSuchElementException();
+    if (most > 0 && findLastAct(dancers, 0)) {
+      wayLength = 1;
+      return 1;
     }
-    wayLength = length;
-    return length;
+    for (int act = 0; act < RUN && most > 1; act++) {
+      plan.readAct(act);
+      stage.load(dancers, experts);
+      if (stage.run(plan, plan.partCount, 0) == '-') {
+        trial.read(stage.ground);
+        if (findLastAct(trial, 1)) {
+          way[0] = act;
+          wayLength = 2;
+          return 2;
+        }
+      }
+    }
+    throw new NoSuchElementException();
   }
 
   public char wayAt(int index) throws IndexOutOfBoundsException {
@@ -680,40 +690,17 @@ public final class Callerhall {
     stage.steps.ready(stage.ground, act);
   }
 
-  private boolean findOneAct() {
+  /** Finds the first act that leads home from places, and keeps it at an index of the way. */
+  private boolean findLastAct(Places from, int index) {
     for (int act = 0; act < RUN; act++) {
-      if (isDanced(dancers, act) && isStageHome()) {
-        way[0] = act;
+      plan.readAct(act);
+      stage.load(from, experts);
+      if (stage.run(plan, plan.partCount, 0) == '-' && areHome(stage.ground.x, stage.ground.y, stage.ground.f)) {
+        way[index] = act;
         return true;
       }
     }
     return false;
-  }
-
-  private boolean findTwoActs() {
-    for (int act = 0; act < RUN; act++) {
-      if (isDanced(dancers, act)) {
-        trial.read(stage.ground);
-        for (int next = 0; next < RUN; next++) {
-          if (isDanced(trial, next) && isStageHome()) {
-            way[0] = act;
-            way[1] = next;
-            return true;
-          }
-        }
-      }
-    }
-    return false;
-  }
-
-  private boolean isDanced(Places from, int act) {
-    plan.readAct(act);
-    stage.load(from, experts);
-    return stage.run(plan, plan.partCount, 0) == '-';
-  }
-
-  private boolean isStageHome() {
-    return areHome(stage.ground.x, stage.ground.y, stage.ground.f);
   }
 
   /** Whether an act by all ends alike, danced at once or as its first part and what is then left. */
@@ -1571,7 +1558,7 @@ public final class Callerhall {
         enter(inner);
         Floor floor = floorAt(depth);
         begin(floor, plan, i);
-        if (done >= from) {
+        if (reason == '-' && done >= from) {
           steps.takeHands(floor, act);
         }
         int parts = Math.min(ACT_PARTS[act], most - done);
