@@ -972,6 +972,9 @@ public final class Callerhall {
     }
 
     private void append(int act, int who, int inner) {
+      if (actCount < 0 || actCount >= Book.MOST_ACTS || act < 0 || act >= ACT_PARTS.length) {
+        return;
+      }
       acts[actCount] = act;
       whos[actCount] = who;
       concepts[actCount] = inner;
@@ -1043,10 +1046,16 @@ public final class Callerhall {
     int count = 0;
     boolean isCounting = true;
 
-    private void add(int atX, int atY, int atF) {
+    private void add(int atX, int atY, int atF, int bodyNumber, int skill, int bits) {
+      if (count < 0 || count >= MOST_BODIES) {
+        return;
+      }
       x[count] = atX;
       y[count] = atY;
-      f[count] = atF;
+      f[count] = atF & 3;
+      number[count] = bodyNumber;
+      ability[count] = skill;
+      groups[count] = bits;
       turns[count] = 0;
       firstHand[count] = NO_PAIR;
       lastHand[count] = NO_PAIR;
@@ -1055,20 +1064,16 @@ public final class Callerhall {
 
     void addDancers(Places places, int[] skills) {
       count = 0;
-      for (int i = 0; i < DANCERS; i++) {
-        number[i] = i;
-        ability[i] = skills[i];
-        groups[i] = bitOf(i / 2 % 2 == 0 ? HEADS : SIDES) | bitOf(i % 2 == 0 ? LEFTS : RIGHTS);
-        add(places.x[i], places.y[i], places.f[i]);
+      for (int i = 0; i < DANCERS && i < skills.length; i++) {
+        int bits = bitOf(i / 2 % 2 == 0 ? HEADS : SIDES) | bitOf(i % 2 == 0 ? LEFTS : RIGHTS);
+        add(places.x[i], places.y[i], places.f[i], i, skills[i], bits);
       }
     }
 
     void addPhantoms(Places phantoms) {
-      for (int i = 0; i < phantoms.count && count < MOST_BODIES; i++) {
-        number[count] = DANCERS + i;
-        ability[count] = 3;
-        groups[count] = bitOf(i % 2 == 0 ? LEFTS : RIGHTS);
-        add(phantoms.x[i], phantoms.y[i], phantoms.f[i]);
+      for (int i = 0; i < phantoms.count && i < DANCERS; i++) {
+        int bits = bitOf(i % 2 == 0 ? LEFTS : RIGHTS);
+        add(phantoms.x[i], phantoms.y[i], phantoms.f[i], DANCERS + i, 3, bits);
       }
     }
 
@@ -1080,15 +1085,14 @@ public final class Callerhall {
     boolean addUnit(Floor below, int leader, int other, boolean isAlongX) {
       int midX = (below.x[leader] + below.x[other]) / 2;
       int midY = (below.y[leader] + below.y[other]) / 2;
-      if (count >= MOST_BODIES || (isAlongX ? midX : midY) % 2 != 0) {
+      if (count < 0 || count >= MOST_BODIES || (isAlongX ? midX : midY) % 2 != 0) {
         return false;
       }
       lead[count] = leader;
       trail[count] = other;
-      number[count] = below.number[leader];
-      ability[count] = Math.min(below.ability[leader], below.ability[other]);
-      groups[count] = below.groups[leader] & below.groups[other];
-      add(isAlongX ? midX / 2 : midX, isAlongX ? midY : midY / 2, below.f[leader]);
+      int skill = Math.min(below.ability[leader], below.ability[other]);
+      int bits = below.groups[leader] & below.groups[other];
+      add(isAlongX ? midX / 2 : midX, isAlongX ? midY : midY / 2, below.f[leader], below.number[leader], skill, bits);
       return true;
     }
 
@@ -1245,7 +1249,8 @@ public final class Callerhall {
       for (int i = 0; i < floor.count; i++) {
         int nearness = who < NEAR ? 1 : nearnessOf(floor, i);
         hasTie = hasTie || nearness == 0;
-        told[i] = who == ALL || (who < NEAR ? (floor.groups[i] & Floor.bitOf(who)) != 0 : nearness > 0 == (who == NEAR));
+        boolean isInGroup = who == ALL || (floor.groups[i] & Floor.bitOf(who)) != 0;
+        told[i] = who < NEAR ? isInGroup : (nearness > 0) == (who == NEAR);
         hasSome = hasSome || told[i];
       }
       return hasSome && !hasTie;

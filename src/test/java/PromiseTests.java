@@ -134,6 +134,9 @@ public final class PromiseTests {
     h.turnAll(1);
     is(h.home(), 8);
     is(h.home(), 0);
+    h.put(0, 0, -3, 0);
+    h.put(2, 3, 0, 3);
+    is(h.home(), 2);
     // Flow and hands begin anew, calls cannot be taken back, and nothing is left to finish.
     whole('q', 'a', '-');
     whole('p', 'a', '-');
@@ -198,6 +201,7 @@ public final class PromiseTests {
     fails(ARGUMENT, () -> h.put(0, -9, 9, -1));
     h.dance('u', 'a', '-', 1, 2);
     fails(UNSUPPORTED, () -> h.put(0, 1, -2, 0));
+    fails(UNSUPPORTED, () -> h.put(1, -1, -2, 0));
     is(h.left(), 1);
     is(h.calls(), 1);
     h.put(0, 0, 0, 0);
@@ -227,6 +231,9 @@ public final class PromiseTests {
     is(at(0), "-3 1 1");
     is(h.turnAll(3), 2);
     is(at(0), "1 3 2");
+    h.put(0, 5, 7, 1);
+    is(h.turnAll(1), 0);
+    is(at(0) + ", " + at(1), "-7 5 0, -3 -1 1");
     fails(ARGUMENT, () -> h.turnAll(0));
     fails(ARGUMENT, () -> h.turnAll(4));
     fails(ARGUMENT, () -> h.turnAll(-1));
@@ -305,6 +312,36 @@ public final class PromiseTests {
     h.put(0, -1, 0, 0);
     is(whole('x', 'a', 'P'), 1);
     is(at(0), "1 0 0");
+    h.dance('b', 'a', '-', 1, 2);
+    h.phantom(7, 7, 2);
+    is(h.left(), 0);
+    // They are gone behind an act that has the concept, and begin anew in the next one, but stay for a whole call.
+    lay(-1, 0, 0);
+    h.phantom(1, 0, 2);
+    h.define('A', 2000, 'x', 'a', 'P');
+    h.define('A', 2000, 'x', 'a', '-');
+    refused('p', 0, 'A', 'a', '-');
+    is(whole('A', 'a', 'P'), 2);
+    is(at(0), "-1 0 0");
+    h.define('B', 2000, 'x', 'a', 'P');
+    h.define('B', 2000, 'x', 'a', 'P');
+    refused('p', 0, 'B', 'a', '-');
+    h.define('C', 2000, 'x', 'a', 'P');
+    h.define('C', 2000, 'q', 'a', '-');
+    is(whole('C', 'a', '-'), 2);
+    is(at(0), "1 0 1");
+    // They have the skill 3.
+    lay(-1, 0, 0);
+    h.phantom(1, 0, 2);
+    is(whole('c', 'a', 'P'), 3);
+    is(at(0), "0 -1 3");
+    // The third one is a left again.
+    lay(-1, 0, 0);
+    h.phantom(8, 8, 2);
+    h.phantom(6, 8, 2);
+    h.phantom(1, 0, 2);
+    refused('p', 9, 'h', 'r', 'P');
+    refused('p', 0, 'r', 'l', 'P');
     // Phantoms are numbered from 8, even ones are lefts, and a dancer may be at the place of one.
     lay(0, 0, 0, -3, 0, 0);
     h.phantom(3, 0, 0);
@@ -388,6 +425,14 @@ public final class PromiseTests {
     is(h.parts('A'), 3);
     h.year(1949);
     fails(ELEMENT, () -> h.parts('A'));
+    h.year(2000);
+    h.define('H', 1990, 'c', 'a', '-');
+    h.define('H', 1980, 'u', 'a', '-');
+    is(h.parts('H'), 3);
+    h.define('B', 1990, 'u', 'a', '-');
+    h.define('B', 2001, 'c', 'a', '-');
+    h.define('B', 1980, 'q', 'a', '-');
+    is(h.parts('B'), 2);
   }
 
   static void promise15() {
@@ -415,6 +460,20 @@ public final class PromiseTests {
     is(h.left(), 1);
     h.define('A', 2001, 'g', 'r', 'O');
     is(h.left(), 0);
+    for (int i = 1; i <= 8; i++) {
+      is(h.define('C', 1900 + i / 8, 'u', 'h', '-'), i < 8 ? i : 1);
+    }
+    is(h.define('C', 1902, 'u', 'h', '-'), 1);
+    is(h.define('C', 1900, 'u', 'h', '-'), 8);
+    fails(STATE, () -> h.define('C', 1900, 'u', 'h', '-'));
+    for (int i = 1; i <= 8; i++) {
+      is(h.define('A', 1999, 'u', 'h', '-'), i);
+    }
+    fails(STATE, () -> h.define('A', 1999, 'u', 'h', '-'));
+    h.home();
+    h.define('D', 2000, 'q', 'h', '-');
+    is(whole('D', 'a', '-'), 1);
+    is(at(0) + ", " + at(2), "-1 -3 1, 3 -1 3");
     // Acts are danced one behind the other, each by its own dancers.
     h.define('B', 2000, 'u', 'h', '-');
     h.define('B', 2000, 'q', 's', '-');
@@ -754,6 +813,15 @@ public final class PromiseTests {
     lay(0, 1, 0, 2, 1, 0);
     refused('p', 0, 'x', 'a', 'X');
     is(whole('q', 'a', 'X'), 1);
+    lay(0, 1, 1, 0, 3, 1);
+    refused('p', 0, 'x', 'a', 'X');
+    is(whole('x', 'a', 'Y'), 1);
+    lay(0, 1, 0, 0, 3, 2);
+    refused('p', 0, 'g', 'a', 'X');
+    is(whole('g', 'a', 'Y'), 2);
+    lay(1, 0, 1, 3, 0, 3);
+    refused('p', 0, 'g', 'a', 'Y');
+    is(whole('g', 'a', 'X'), 2);
     lay(1, -1, 0, 1, 1, 2);
     refused('p', 0, 'g', 'a', 'Y');
     is(whole('g', 'a', 'X'), 2);
@@ -1397,6 +1465,24 @@ public final class PromiseTests {
     is(h.wayHome(2), 2);
     is(h.wayAt(0), 'q');
     is(h.wayAt(1), 't');
+    h.home();
+    whole('b', 'a', '-');
+    h.dance('u', 'a', '-', 1, 2);
+    h.finish();
+    whole('b', 'a', '-');
+    is(h.wayHome(2), 1);
+    is(h.wayAt(0), 'u');
+    whole('q', 'a', '-');
+    is(h.wayHome(2), 2);
+    is(h.wayAt(0) + "" + h.wayAt(1), "pu");
+    h.back();
+    whole('x', 'a', '-');
+    is(h.wayHome(2), 2);
+    is(h.wayAt(0) + "" + h.wayAt(1), "ux");
+    h.home();
+    whole('x', 'a', '-');
+    whole('q', 'a', '-');
+    is(h.wayHome(2), 2);
     h.put(0, 9, 9, 0);
     fails(ELEMENT, () -> h.wayHome(2));
     is(h.wayAt(1), 't');
