@@ -541,7 +541,7 @@ public final class Callerhall {
   }
 
   public int setOf(int tip, int couple) throws IndexOutOfBoundsException {
-    if (tip < 0 || tip >= party.tips) {
+    if (tip < 0 || tip >= party.tips || tip >= Party.MOST_TIPS) {
       throw new IndexOutOfBoundsException();
     }
     checkCouple(couple);
@@ -571,10 +571,10 @@ public final class Callerhall {
   }
 
   public double meanAway() {
-    int sum = 0;
+    long sum = 0;
     for (int i = 0; i < DANCERS; i++) {
       int spot = spotOf(i);
-      sum += Math.abs(dancers.x[i] - SPOT_X[spot]) + Math.abs(dancers.y[i] - SPOT_Y[spot]);
+      sum += Math.abs((long) dancers.x[i] - SPOT_X[spot]) + Math.abs((long) dancers.y[i] - SPOT_Y[spot]);
     }
     return (double) sum / (double) DANCERS;
   }
@@ -858,7 +858,7 @@ public final class Callerhall {
     int size = 0;
 
     void keep(Places places, char letter) {
-      newest = (newest + 1) % MOST_PAST;
+      newest = Math.floorMod(newest + 1, MOST_PAST);
       size = Math.min(size + 1, MOST_PAST);
       letters[newest] = letter;
       int[] row = rows[newest];
@@ -870,14 +870,14 @@ public final class Callerhall {
     }
 
     void readLast(Places places) {
-      int[] row = rows[newest];
+      int[] row = rows[Math.floorMod(newest, MOST_PAST)];
       for (int i = 0; i < DANCERS; i++) {
         places.tell(i, row[3 * i], row[3 * i + 1], row[3 * i + 2]);
       }
     }
 
     void drop() {
-      newest = (newest + MOST_PAST - 1) % MOST_PAST;
+      newest = Math.floorMod(newest - 1, MOST_PAST);
       size = Math.max(0, size - 1);
     }
 
@@ -890,18 +890,20 @@ public final class Callerhall {
   private static final class Book {
     static final int MOST_VERSIONS = 3;
     static final int MOST_ACTS = 8;
-    final int[] versions = new int[LETTERS.length()];
-    final int[] years = new int[LETTERS.length() * MOST_VERSIONS];
-    final int[] actCounts = new int[LETTERS.length() * MOST_VERSIONS];
+    // Three places for each letter from A to H.
+    static final int PLACES = 24;
+    final int[] versions = new int[PLACES / MOST_VERSIONS];
+    final int[] years = new int[PLACES];
+    final int[] actCounts = new int[PLACES];
     // 0 as long as no beats were told.
-    final int[] beatsTold = new int[LETTERS.length() * MOST_VERSIONS];
-    final int[][] acts = new int[LETTERS.length() * MOST_VERSIONS][MOST_ACTS];
-    final int[][] whos = new int[LETTERS.length() * MOST_VERSIONS][MOST_ACTS];
-    final int[][] concepts = new int[LETTERS.length() * MOST_VERSIONS][MOST_ACTS];
+    final int[] beatsTold = new int[PLACES];
+    final int[][] acts = new int[PLACES][MOST_ACTS];
+    final int[][] whos = new int[PLACES][MOST_ACTS];
+    final int[][] concepts = new int[PLACES][MOST_ACTS];
 
     int versionOf(int letter, int year) {
       int first = letter * MOST_VERSIONS;
-      for (int i = first; i < first + versions[letter]; i++) {
+      for (int i = first; i < first + versions[letter] && i < PLACES; i++) {
         if (years[i] == year) {
           return i;
         }
@@ -913,7 +915,7 @@ public final class Callerhall {
     int holding(int letter, int year) {
       int first = letter * MOST_VERSIONS;
       int best = -1;
-      for (int i = first; i < first + versions[letter]; i++) {
+      for (int i = first; i < first + versions[letter] && i < PLACES; i++) {
         if (years[i] <= year && (best < 0 || years[i] > years[best])) {
           best = i;
         }
@@ -989,9 +991,11 @@ public final class Callerhall {
       append(act, ALL, PLAIN);
     }
 
-    /** Tells who dances an act, or 'all' for a call, and the concept that is put on it. */
+    /** Puts a concept on all; others than all can be told for a single act only. */
     void putOn(int who, int outer) {
-      whos[0] = actCount == 1 && who != ALL ? who : whos[0];
+      if (who != ALL) {
+        whos[0] = who;
+      }
       concept = outer;
     }
 
