@@ -1,102 +1,10 @@
-import java.lang.reflect.InvocationTargetException;
-import java.util.NoSuchElementException;
-
 /** Each promise of the document: ordinary inputs, the edges that it names, and wrong inputs. */
-public final class PromiseTests {
-  private static final Class<?> INDEX = IndexOutOfBoundsException.class;
-  private static final Class<?> ARGUMENT = IllegalArgumentException.class;
-  private static final Class<?> UNSUPPORTED = UnsupportedOperationException.class;
-  private static final Class<?> STATE = IllegalStateException.class;
-  private static final Class<?> ELEMENT = NoSuchElementException.class;
-  private static final Class<?> ARITHMETIC = ArithmeticException.class;
-  private static int wrong = 0;
-  private static int promise = 0;
-  private static Callerhall h;
-
-  private interface Call {
-    Object run();
-  }
-
-  private static void is(Object got, Object want) {
-    if (!got.equals(want)) {
-      wrong++;
-      StackTraceElement[] stack = Thread.currentThread().getStackTrace();
-      System.out.println("promise " + promise + ", line " + stack[2].getLineNumber() + ": answered " + got + ", due is " + want);
-    }
-  }
-
-  private static void fails(Class<?> due, Call call) {
-    Object got;
-    try {
-      got = call.run();
-    } catch (RuntimeException e) {
-      got = e.getClass();
-    }
-    if (got != due) {
-      wrong++;
-      StackTraceElement[] stack = Thread.currentThread().getStackTrace();
-      System.out.println("promise " + promise + ", line " + stack[2].getLineNumber() + ": answered " + got + ", due is " + due);
-    }
-  }
-
-  /** The dance of a whole call cannot be, for a reason and, if not -1, by a body. */
-  private static void refused(char why, int whom, char call, char who, char concept) {
-    fails(UNSUPPORTED, () -> h.dance(call, who, concept, 1, 1));
-    is(h.why(), why);
-    if (whom < 0) {
-      fails(ELEMENT, () -> h.whom());
-    } else {
-      is(h.whom(), whom);
-    }
-  }
-
-  private static String at(int dancer) {
-    return h.x(dancer) + " " + h.y(dancer) + " " + h.facing(dancer);
-  }
-
-  private static String all() {
-    StringBuilder text = new StringBuilder();
-    for (int i = 0; i < 8; i++) {
-      text.append(at(i)).append(i < 7 ? ", " : "");
-    }
-    return text.toString();
-  }
-
-  private static int whole(char call, char who, char concept) {
-    return h.dance(call, who, concept, 1, 1);
-  }
-
-  /** A new square in which the first dancers are at the places told, the others far away and of skill 0. */
-  private static void lay(int... places) {
-    h = new Callerhall();
-    for (int i = 0; i < 8; i++) {
-      h.put(i, 9, 9 - i, 0);
-      h.skill(i, 3 * i < places.length ? 3 : 0);
-    }
-    for (int i = 0; 3 * i < places.length; i++) {
-      h.put(i, places[3 * i], places[3 * i + 1], places[3 * i + 2]);
-    }
-  }
-
-  private static final int[] LINES = {-3, -1, 0, -1, -1, 0, 1, -1, 0, 3, -1, 0, 3, 1, 2, 1, 1, 2, -1, 1, 2, -3, 1, 2};
-  private static final int[] WAVES = {-3, -1, 0, -1, -1, 2, 1, -1, 0, 3, -1, 2, 3, 1, 2, 1, 1, 0, -1, 1, 2, -3, 1, 0};
-  private static final int[] COLUMNS = {-1, -3, 0, -1, -1, 0, -1, 1, 0, -1, 3, 0, 1, 3, 2, 1, 1, 2, 1, -1, 2, 1, -3, 2};
-
+public final class PromiseTests extends Checks {
   public static void main(String[] args) throws Exception {
-    for (promise = 1; promise <= 53; promise++) {
-      h = new Callerhall();
-      try {
-        PromiseTests.class.getDeclaredMethod("promise" + promise).invoke(null);
-      } catch (InvocationTargetException e) {
-        wrong++;
-        System.out.println("promise " + promise + " threw:");
-        e.getCause().printStackTrace(System.out);
-      }
+    for (int promise = 1; promise <= 53; promise++) {
+      run(PromiseTests.class, "promise" + promise);
     }
-    System.out.println(wrong == 0 ? "all promises are kept" : wrong + " answers are not as due");
-    if (wrong != 0) {
-      System.exit(1);
-    }
+    end("all promises are kept");
   }
 
   static void promise1() {
