@@ -1187,6 +1187,8 @@ public final class EdgeTests extends Checks {
         is(h.isHome(), false);
         h.put(i, x, y + 1, facing);
         is(h.isHome(), false);
+        h.put(i, x + 1, y, facing);
+        is(h.isHome(), false);
         h.put(i, x, y, facing);
         is(h.isHome(), true);
       }
@@ -1416,12 +1418,26 @@ public final class EdgeTests extends Checks {
     }
     is(h.wayHome(2), 1);
     is(h.wayAt(0), 'f');
-    // w is found where t is none: there is none such, as t turns couples as far; r is on no way.
+    // As if all had the skill 3, in each of two acts, whatever the level: f brings all about, and t home.
     h = new Callerhall();
-    h.skill(0, 0);
+    for (int i = 0; i < 8; i++) {
+      h.put(i, h.x(i), h.y(i), (h.facing(i) + (i % 2 == 0 ? 1 : 3)) % 4);
+      h.skill(i, i % 3 == 0 ? 0 : 1);
+    }
     h.level(1);
+    fails(ELEMENT, () -> h.wayHome(1));
+    is(h.wayHome(2), 2);
+    is(h.wayAt(0) + "" + h.wayAt(1), "ft");
+    // By all: what leads home by some is no way.
+    h = new Callerhall();
     whole('t', 's', '-');
     fails(ELEMENT, () -> h.wayHome(2));
+    // Without phantoms in the way.
+    h = new Callerhall();
+    whole('b', 'a', '-');
+    h.phantom(0, 0, 0);
+    h.phantom(1, 3, 0);
+    is(h.wayHome(1), 1);
   }
 
   /** All at home, but a number of places back. */
@@ -1643,6 +1659,14 @@ public final class EdgeTests extends Checks {
     h.tip();
     is(sets(3, 5), "0-000");
     is(h.met(2, 3) + " " + h.met(2, 4) + " " + h.met(0, 1) + " " + h.met(1, 3) + " " + h.met(0, 4), "2 2 3 2 3");
+    // Nine couples: in the fifth tip 3, 7 and 8 are in the first set, and 4 comes in, who has met them three times, not 6,
+    // who has danced less, but met them four times.
+    h.hall(9);
+    String[] due = {"00001111-", "0011011-0", "010111-00", "101-11000", "11-001100"};
+    for (int i = 0; i < due.length; i++) {
+      is(h.tip(), 1);
+      is(sets(i, 9), due[i]);
+    }
   }
 
   static void edges48() {

@@ -330,6 +330,15 @@ public final class TermTests extends Checks {
     is(first(5), "-3 0 0, -5 0 0, -1 0 3, 3 0 0, 1 0 2");
     lay(-5, 0, 0, -3, 0, 0, 1, 0, 0, 3, 0, 2);
     is(whole('x', 'a', '-'), 1);
+    // From the least y on, whatever x they have, and whoever is where.
+    for (int x = -6; x <= 6; x++) {
+      lay(x, 5, 1, x, 3, 3, x, 1, 1);
+      refused('p', 0, 'x', 'a', '-');
+      lay(x, 1, 1, x, 5, 3, x, 3, 1);
+      refused('p', 1, 'x', 'a', '-');
+      lay(x, -5, 1, x, -3, 3, x, -1, 1);
+      refused('p', 2, 'x', 'a', '-');
+    }
     // Another row beside it, nearer than the spacing, has no part in it.
     lay(-1, 0, 0, 1, 0, 0, -1, 1, 0, 1, 1, 0);
     is(whole('x', 'a', '-'), 1);
@@ -753,6 +762,34 @@ public final class TermTests extends Checks {
     is(at(0), "0 1 1");
     is(h.finish(), 2);
     is(at(0), "0 -1 3");
+    // Within it, each act has its own concept; and P within P adds none.
+    lay(1, 1, 0);
+    h.phantom(5, 1, 0);
+    for (char concept : "OXYP-".toCharArray()) {
+      h.forget('A');
+      h.define('A', 2000, 'x', 'a', concept);
+      is(answer(() -> h.dance('A', 'a', 'P', 1, 1)), concept == 'O' ? (Object) 1 : UNSUPPORTED);
+      h.put(0, 1, 1, 0);
+    }
+    h.clearPhantoms();
+    h.phantom(-1, 1, 0);
+    for (char concept : "OXYP-".toCharArray()) {
+      h.forget('A');
+      h.define('A', 2000, 'x', 'a', concept);
+      is(answer(() -> h.dance('A', 'a', 'P', 1, 1)), concept == 'O' || concept == 'X' ? UNSUPPORTED : (Object) 1);
+      h.put(0, 1, 1, 0);
+    }
+    // A phantom is in a unit as others are; on an act within units, it is beside them.
+    lay(-3, -1, 0, -1, -1, 0, 1, -1, 0, 3, -1, 0, -3, 1, 0, -1, 1, 0, 1, 1, 0, 3, 1, 0);
+    h.phantom(5, 5, 0);
+    h.define('A', 2000, 'b', 'a', 'C');
+    refused('p', -1, 'A', 'a', 'P');
+    h.phantom(7, 5, 0);
+    is(whole('A', 'a', 'P'), 2);
+    h.define('B', 2000, 'b', 'a', 'P');
+    is(whole('B', 'a', 'C'), 2);
+    h.phantom(-1, 1, 0);
+    refused('b', 4, 'B', 'a', 'C');
     // With none told there are none.
     h.clearPhantoms();
     is(whole('q', 'a', 'P'), 1);
