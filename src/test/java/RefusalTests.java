@@ -235,14 +235,29 @@ public final class RefusalTests extends Checks {
       int dancer = i;
       note(text, () -> c.skill(dancer, 3));
     }
-    note(text, () -> c.phantom(0, 0, 0));
-    note(text, () -> c.phantom(9, 9, 0));
-    note(text, () -> c.clearPhantoms());
-    note(text, () -> c.sing(8));
     note(text, () -> c.home());
     note(text, () -> c.progress());
     note(text, () -> c.gone());
+    note(text, () -> c.sing(8));
     noteSquare(text, c);
+    probePhantoms(text, c);
+  }
+
+  /** Where phantoms are, and which way they face: a dancer is put ahead of each of two, facing it in each way. */
+  private static void probePhantoms(StringBuilder text, Callerhall c) {
+    for (int i = 0; i < 8; i++) {
+      c.skill(i, i < 2 ? 3 : 0);
+    }
+    for (int facing = 0; facing < 4; facing++) {
+      int own = facing;
+      note(text, () -> c.put(0, own == 1 ? -2 : own == 3 ? 2 : 0, own == 0 ? -2 : own == 2 ? 2 : 0, own));
+      note(text, () -> c.put(1, own == 1 ? 7 : 9, own == 0 ? 7 : 9, own));
+      note(text, () -> c.fits('g', 'l', 'P'));
+      note(text, () -> c.fits('g', 'r', 'P'));
+    }
+    note(text, () -> c.phantom(0, 0, 0));
+    note(text, () -> c.phantom(9, 9, 0));
+    note(text, () -> c.clearPhantoms());
   }
 
   private static void probeVersions(StringBuilder text, Callerhall c) {
