@@ -196,7 +196,7 @@ public final class EdgeTests extends Checks {
     String[] due = {"-7 5 1", "-5 -7 0", "7 -5 3"};
     for (int i = 1; i <= 3; i++) {
       h.put(0, 5, 7, 2);
-      is(h.turnAll(i), 4 - i == 1 ? 3 : i == 1 ? 1 : 0);
+      is(h.turnAll(i), (6 - i) % 4);
       is(at(0), due[i - 1]);
       h.home();
     }
@@ -895,7 +895,7 @@ public final class EdgeTests extends Checks {
     h.back();
     h.back();
     is(h.turned(0), -1);
-    is(h.broken(), 8 - 6);
+    is(h.broken(), 2);
     is(h.sung(), 4);
     is(h.beats(), 4L);
     is(h.doneShare(), 1.0f);
@@ -994,7 +994,7 @@ public final class EdgeTests extends Checks {
   }
 
   static void edges31() {
-    dancers(i -> answer(() -> h.partner(i, false, 2)) == INDEX ? h.x(-1) : 0);
+    dancers(i -> h.partner(i, false, 2));
     for (int spacing = -4; spacing <= 8; spacing++) {
       int own = spacing;
       lay(0, 0, 0, 0, 2, 2, 2, 0, 0);

@@ -279,7 +279,7 @@ public final class RefusalTests extends Checks {
   private static void probeFlow(StringBuilder text, Callerhall c) {
     for (char call : "qpbhtBA".toCharArray()) {
       for (int i = 0; i < 2; i++) {
-        note(text, () -> c.dance(call, 'a', i(call), 1, 1));
+        note(text, () -> c.dance(call, 'a', conceptFor(call), 1, 1));
         note(text, () -> c.why());
         note(text, () -> c.doneShare() > 0);
         noteSquare(text, c);
@@ -287,7 +287,8 @@ public final class RefusalTests extends Checks {
     }
   }
 
-  private static char i(char call) {
+  /** Phantoms are in the way in one of the calls. */
+  private static char conceptFor(char call) {
     return call == 'b' ? 'P' : '-';
   }
 

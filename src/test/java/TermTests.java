@@ -1001,7 +1001,6 @@ public final class TermTests extends Checks {
   static void movedUnits() {
     // One has moved that is elsewhere than ahead of the concept: the couple of 2 and 3 goes up, and down again to where
     // it was, or two less; 0 and 1 come beside it. All acts are within one concept.
-    String[] due = {"b", "-"};
     for (int less = 0; less < 2; less++) {
       lay(1, -2, 0, 3, -2, 0, 5, less * 2, 2, 3, less * 2, 2, -7, 9, 0, -5, 9, 0, -7, -9, 0, -5, -9, 0);
       for (int i = 4; i < 8; i++) {
@@ -1020,7 +1019,7 @@ public final class TermTests extends Checks {
         is(whole('A', 'a', 'C'), 4);
         is(first(4), "1 0 0, 2 0 0, 5 0 2, 4 0 2");
       }
-      is(h.why(), due[less].charAt(0));
+      is(h.why(), less == 0 ? 'b' : '-');
     }
   }
 
