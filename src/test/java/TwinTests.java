@@ -1,8 +1,8 @@
 import java.util.NoSuchElementException;
 
 /**
- * What the document says of two squares that are used alike but for one thing: that one is turned, or that one dances
- * a call in two goes. Nothing that is due here was worked out by a program of the document.
+ * Two squares that are used alike but for one thing: that one is turned, or that one dances a call in two goes.
+ * Nothing that is due here was worked out by hand, or by another program of the document.
  */
 public final class TwinTests extends Checks {
   private static final String ACTS = "uqpbgfhctwxor";
